@@ -759,8 +759,8 @@ public final class ShapeFits {
             topLast = group;
             for (int first = group; first >= 0; first--) {
                 for (int last = group; last < table.size(); last++) {
-                    int above = side * table.compareMeans(first, last, topFirst, topLast);
-                    if (above > 0 || above == 0 && last - first > topLast - topFirst) {
+                    // Of equal means the latest counts: the union of all of them is met last.
+                    if (side * table.compareMeans(first, last, topFirst, topLast) >= 0) {
                         topFirst = first;
                         topLast = last;
                     }

@@ -12,6 +12,8 @@ public final class FitsTest {
         weightsAndMembers();
         poolingBackwards();
         equalMeansAreOneBlock();
+        twelveBlocks();
+        leastDifference();
         greatestNumbers();
         onePoint();
         wrongArguments();
@@ -135,6 +137,28 @@ public final class FitsTest {
         due(16, "blocks(1)", Checks.values(7, 7, 7).blocks(1), 1);
         due(16, "blocks(2)", Checks.values(7, 7, 7).blocks(2), 1);
         due(16, "blocks(3)", Checks.values(7, 7, 7).blocks(3), 1);
+    }
+
+    private static void twelveBlocks() {
+        ShapeFits x = Checks.values(0, 1, 2, 3, 4, 5, 6, 7, 8, 9, 10, 11);
+        due(16, "blocks(0)", x.blocks(0), 12);
+        dueBlock(x, 0, 11, 11, 11, 1, 11);
+        due(17, "blockInfo(0, 12, 0)", x.blockInfo(0, 12, 0), NOT_FOUND);
+        dueFit(x, 0, 0, 1, 1, 1, 2, 1, 3, 1, 4, 1, 5, 1, 6, 1, 7, 1, 8, 1, 9, 1, 10, 1, 11, 1);
+        due(16, "blocks(1)", x.blocks(1), 1);
+        due(16, "blocks(2)", x.blocks(2), 12);
+        due(16, "blocks(3)", x.blocks(3), 12);
+        x.mirror(0);
+        due(16, "blocks(1)", x.blocks(1), 12);
+        dueError(x, 0, 143, 1);
+    }
+
+    private static void leastDifference() {
+        ShapeFits x = Checks.values(0, 1);
+        dueTurnError(x, 2, 0, 1, 2);
+        dueTurnError(x, 2, 1, 0, 1);
+        dueTurnError(x, 3, 0, 0, 1);
+        dueTurnError(x, 3, 1, 1, 2);
     }
 
     private static void greatestNumbers() {

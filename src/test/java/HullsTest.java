@@ -11,6 +11,7 @@ public final class HullsTest {
         straightLineHasNoKinks();
         weightedMeans();
         manyKinks();
+        firstQuestions();
         equalGaps();
         fewGroups();
         wrongArguments();
@@ -89,6 +90,18 @@ public final class HullsTest {
         dueKinks(x, 4);
         dueKinks(x, 5, 1, 2, 3, 4, 5, 6, 7, 8, 9, 10);
         dueGap(x, 30, 1, 5);
+    }
+
+    /** Each question is asked first of a new object, as it must not lean on another one. */
+    private static void firstQuestions() {
+        due(18, "kinks(4)", Checks.values(2, 0, 2).kinks(4), 1);
+        due(19, "kinkAt(4, 0)", Checks.values(2, 0, 2).kinkAt(4, 0), 1);
+        due(19, "kinkAt(5, 0)", Checks.values(0, 2, 0).kinkAt(5, 0), 1);
+        due(20, "gap(0)", Checks.values(0, 2, 0).gap(0), 2);
+        ShapeFits x = Checks.values(2, 0, 2);
+        x.kinks(4);
+        x.setPoint(1, 3, 1);
+        due(19, "kinkAt(4, 0) after a change", x.kinkAt(4, 0), NOT_FOUND);
     }
 
     private static void equalGaps() {

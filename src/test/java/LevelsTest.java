@@ -101,6 +101,10 @@ public final class LevelsTest {
         dueError(x, 1, 77, 6);
         duePenalty(x, 2, 6, 5);
         duePenalty(x, 1, 169, 30);
+        duePenalty(x, 3, 0, 1);
+        due(22, "levelBegin(3, 2) first", Checks.values(1, 5, 9).levelBegin(3, 2), 2);
+        due(23, "levels(0, 1) first", Checks.values(1, 5, 9).levels(0, 1), 3);
+        due(24, "penaltyFor(2, 0) first", Checks.values(1, 5, 9).penaltyFor(2, 0), 8);
     }
 
     private static void equalValues() {

@@ -16,6 +16,8 @@ public final class TextsTest {
         weights();
         separators();
         behindTheTwelfth();
+        behindTheEndOfTheText();
+        fullText();
         chainOfTheLatestCall();
         CHECKS.finish();
     }
@@ -140,6 +142,39 @@ public final class TextsTest {
         dueFault(twelve + "99", 48, 22, 5);
         dueFault(twelve.substring(0, 47), 44, 21, 4);
         dueFault(twelve.substring(0, 44) + "1:1*3;1", 44, 21, 3, 7);
+    }
+
+    private static void behindTheEndOfTheText() {
+        ShapeFits x = new ShapeFits();
+        Checks.write(x, "1:2*1;3:4;");
+        Checks.write(x, "1:2");
+        due(27, "fault() before a cleared *", x.fault(), 0);
+        Checks.write(x, "1:2*1");
+        due(27, "fault() before a cleared ;", x.fault(), 0);
+        Checks.write(x, "1");
+        x.fault();
+        dueChain(x, "1", 10, 4);
+        Checks.write(x, "1:");
+        x.fault();
+        dueChain(x, "1:", 10, 2, 6);
+        Checks.write(x, "1:2*");
+        x.fault();
+        dueChain(x, "1:2*", 10, 3, 6);
+    }
+
+    private static void fullText() {
+        StringBuilder text = new StringBuilder();
+        for (int point = 0; point < 10; point++) {
+            text.append("10:-99*2;");
+        }
+        ShapeFits x = new ShapeFits();
+        Checks.write(x, text.toString());
+        due(27, "fault() of 90 characters", x.fault(), NOT_FOUND);
+        due(6, "lay() of 90 characters", x.lay(), 10);
+        due(6, "groupInfo(0, 2)", x.groupInfo(0, 2), -1980);
+        dueFault(text.substring(0, 81) + "10:-99*22", 81, 19, 4);
+        dueFault(text.substring(0, 81) + "010:-99*2", 81, 19, 4);
+        dueFault(text.substring(0, 81) + "1:-99*2;5", 89, 20, 4);
     }
 
     private static void chainOfTheLatestCall() {
