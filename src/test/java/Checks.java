@@ -1,6 +1,15 @@
+import java.util.Set;
+import java.util.TreeSet;
+
 /** Counts the answers of a test that are not as due, and makes objects with points and texts. */
 final class Checks {
+    private static final int PROMISES = 28;
+    private static final int MOST_LINES = 40;
+
     private final String test;
+    private final Set<Integer> named = new TreeSet<>();
+    private int promise;
+    private String sentence = "";
     private int checked;
     private int wrong;
 
@@ -8,21 +17,48 @@ final class Checks {
         this.test = test;
     }
 
+    /** What is checked without a promise's number belongs, from here on, to these words of it. */
+    void sentence(int promise, String words) {
+        this.promise = promise;
+        sentence = ", \"" + words + "\"";
+        named.add(promise);
+    }
+
+    void due(String call, long got, long want) {
+        count(promise, sentence, call, got, want);
+    }
+
     void due(int promise, String call, long got, long want) {
+        count(promise, "", call, got, want);
+    }
+
+    private void count(int promise, String words, String call, long got, long want) {
         checked++;
         if (got != want) {
             wrong++;
-            if (wrong <= 40) {
-                System.out.println(test + ", promise " + promise + ": " + call + " answered " + got
-                        + ", due is " + want);
+            if (wrong <= MOST_LINES) {
+                System.out.println(test + ", promise " + promise + words + ": " + call
+                        + " answered " + got + ", due is " + want);
             }
         }
     }
 
     /** Checks numerator and denominator of a fraction. */
+    void dueFraction(String call, long[] got, long numerator, long denominator) {
+        due(call + " numerator", got[0], numerator);
+        due(call + " denominator", got[1], denominator);
+    }
+
     void dueFraction(int promise, String call, long[] got, long numerator, long denominator) {
         due(promise, call + " numerator", got[0], numerator);
         due(promise, call + " denominator", got[1], denominator);
+    }
+
+    /** Every promise shall have had a sentence. */
+    void dueAllPromises() {
+        for (int number = 1; number <= PROMISES; number++) {
+            due(number, "sentences of the promise", named.contains(number) ? 1 : 0, 1);
+        }
     }
 
     void finish() {

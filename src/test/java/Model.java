@@ -19,35 +19,34 @@ final class Model {
     private List<Integer> chain = List.of();
     private Shapes shapes;
 
-    /** The number of the method in the document's face, from 0, and its arguments. */
     long answer(int method, int a, int b, int c) {
         switch (method) {
-            case 0: return add(a, b, c);
-            case 1: return remove(a);
-            case 2: return setPoint(a, b, c);
-            case 3: return mirror(a);
-            case 4: return lay();
-            case 5: return undo();
-            case 6: return points.size();
-            case 7: return pointInfo(a, b);
-            case 8: return shapes().size;
-            case 9: return groupInfo(a, b);
-            case 10: return fit(a, b, c);
-            case 11: return error(a, b);
-            case 12: return turn(a);
-            case 13: return turnError(a, b, c);
-            case 14: return a < 0 || a > 3 ? INVALID : blockBegins(a).size();
-            case 15: return blockInfo(a, b, c);
-            case 16: return a < 4 || a > 5 ? INVALID : shapes().kinks(a).size();
-            case 17: return kinkAt(a, b);
-            case 18: return gap(a);
-            case 19: return levelError(a, b);
-            case 20: return levelBegin(a, b);
-            case 21: return levels(a, b);
-            case 22: return penaltyFor(a, b);
-            case 23: return type(a);
-            case 24: return clearText();
-            case 25: return fault();
+            case Calls.ADD: return add(a, b, c);
+            case Calls.REMOVE: return remove(a);
+            case Calls.SET_POINT: return setPoint(a, b, c);
+            case Calls.MIRROR: return mirror(a);
+            case Calls.LAY: return lay();
+            case Calls.UNDO: return undo();
+            case Calls.POINTS: return points.size();
+            case Calls.POINT_INFO: return pointInfo(a, b);
+            case Calls.GROUPS: return shapes().size;
+            case Calls.GROUP_INFO: return groupInfo(a, b);
+            case Calls.FIT: return fit(a, b, c);
+            case Calls.ERROR: return error(a, b);
+            case Calls.TURN: return turn(a);
+            case Calls.TURN_ERROR: return turnError(a, b, c);
+            case Calls.BLOCKS: return a < 0 || a > 3 ? INVALID : blockBegins(a).size();
+            case Calls.BLOCK_INFO: return blockInfo(a, b, c);
+            case Calls.KINKS: return a < 4 || a > 5 ? INVALID : shapes().kinks(a).size();
+            case Calls.KINK_AT: return kinkAt(a, b);
+            case Calls.GAP: return gap(a);
+            case Calls.LEVEL_ERROR: return levelError(a, b);
+            case Calls.LEVEL_BEGIN: return levelBegin(a, b);
+            case Calls.LEVELS: return levels(a, b);
+            case Calls.PENALTY_FOR: return penaltyFor(a, b);
+            case Calls.TYPE: return type(a);
+            case Calls.CLEAR_TEXT: return clearText();
+            case Calls.FAULT: return fault();
             default: return reason(a);
         }
     }

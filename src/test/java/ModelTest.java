@@ -2,14 +2,6 @@
 public final class ModelTest {
     private static final int RUNS = 160;
     private static final int CALLS = 512;
-    private static final String[] NAMES = {"add", "remove", "setPoint", "mirror", "lay", "undo",
-        "points", "pointInfo", "groups", "groupInfo", "fit", "error", "turn", "turnError", "blocks",
-        "blockInfo", "kinks", "kinkAt", "gap", "levelError", "levelBegin", "levels", "penaltyFor",
-        "type", "clearText", "fault", "reason"};
-    private static final int LAY = 4;
-    private static final int TYPE = 23;
-    private static final int CLEAR_TEXT = 24;
-    private static final int FAULT = 25;
     private static final int[] EXTREMES = {Integer.MIN_VALUE, -1000, -1, 13, 41, 127, 1000001,
         Integer.MAX_VALUE};
 
@@ -43,7 +35,7 @@ public final class ModelTest {
     private void play() {
         int first = below(13);
         for (int i = 0; i < first; i++) {
-            call(0, position(), value(), 1 + below(2));
+            call(Calls.ADD, position(), value(), 1 + below(2));
         }
         while (calls < CALLS) {
             step();
@@ -57,11 +49,11 @@ public final class ModelTest {
         } else if (choice < 6) {
             writeNearlyPoint();
         } else if (choice < 11) {
-            call(0, position(), value(), 1 + below(2));
+            call(Calls.ADD, position(), value(), 1 + below(2));
         } else if (choice < 17) {
             changePoint();
         } else if (choice < 21) {
-            call(1 + below(NAMES.length - 1), any(), any(), any());
+            call(below(Calls.NAMES.length), any(), any(), any());
         } else {
             ask();
         }
@@ -70,57 +62,70 @@ public final class ModelTest {
     private void changePoint() {
         switch (below(6)) {
             case 0:
-                call(1, below(12), 0, 0);
+                call(Calls.REMOVE, below(12), 0, 0);
                 break;
             case 1:
-                call(3, below(2), 0, 0);
+                call(Calls.MIRROR, below(2), 0, 0);
                 break;
             case 2:
-                call(5, 0, 0, 0);
+                call(Calls.UNDO, 0, 0, 0);
                 break;
             default:
-                call(2, below(12), value(), 1 + below(2));
+                call(Calls.SET_POINT, below(12), value(), 1 + below(2));
         }
     }
 
     private void ask() {
-        int method = 6 + below(TYPE - 6);
-        switch (NAMES[method]) {
-            case "fit":
+        int method = Calls.POINTS + below(Calls.TYPE - Calls.POINTS);
+        switch (method) {
+            case Calls.FIT:
                 call(method, below(6), below(12), below(2));
                 break;
-            case "error":
-            case "blocks":
-            case "blockInfo":
-                call(method, below(4), below(NAMES[method].equals("error") ? 2 : 8), below(4));
+            case Calls.ERROR:
+                call(method, below(4), below(2), 0);
                 break;
-            case "turn":
-            case "turnError":
+            case Calls.BLOCKS:
+            case Calls.BLOCK_INFO:
+                call(method, below(4), below(8), below(4));
+                break;
+            case Calls.TURN:
+            case Calls.TURN_ERROR:
                 call(method, 2 + below(2), below(12), below(2));
                 break;
-            case "kinks":
-            case "kinkAt":
+            case Calls.KINKS:
+            case Calls.KINK_AT:
                 call(method, 4 + below(2), below(6), 0);
                 break;
-            case "levelError":
-            case "penaltyFor":
+            case Calls.LEVEL_ERROR:
                 call(method, 1 + below(12), below(2), 0);
                 break;
-            case "levelBegin":
+            case Calls.LEVEL_BEGIN:
                 int k = 1 + below(12);
                 call(method, k, below(k), 0);
                 break;
-            case "levels":
+            case Calls.LEVELS:
                 int most = below(2) == 0 ? 200 : 20000;
                 call(method, below(most), 1 + below(100), 0);
+                break;
+            case Calls.PENALTY_FOR:
+                askPenalty(1 + below(12));
                 break;
             default:
                 call(method, below(12), below(4), 0);
         }
     }
 
+    /** Asks for a penalty and then for the levels at it, where two costs are the same. */
+    private void askPenalty(int most) {
+        long numerator = call(Calls.PENALTY_FOR, most, 0, 0);
+        long denominator = call(Calls.PENALTY_FOR, most, 1, 0);
+        if (numerator >= 0 && numerator <= 1000000 && denominator <= 100) {
+            call(Calls.LEVELS, (int) numerator, (int) denominator, 0);
+        }
+    }
+
     private void writePoints(int number) {
-        call(CLEAR_TEXT, 0, 0, 0);
+        call(Calls.CLEAR_TEXT, 0, 0, 0);
         StringBuilder text = new StringBuilder();
         for (int i = 0; i < number; i++) {
             text.append(position()).append(':').append(value());
@@ -131,12 +136,12 @@ public final class ModelTest {
                     .charAt(below(10)));
         }
         write(text);
-        call(below(3) == 0 ? FAULT : LAY, 0, 0, 0);
+        call(below(3) == 0 ? Calls.FAULT : Calls.LAY, 0, 0, 0);
         askReasons();
     }
 
     private void writeNearlyPoint() {
-        call(CLEAR_TEXT, 0, 0, 0);
+        call(Calls.CLEAR_TEXT, 0, 0, 0);
         StringBuilder text = new StringBuilder();
         if (below(2) == 0) {
             text.append("1:2;");
@@ -151,19 +156,19 @@ public final class ModelTest {
             text.append(parts[below(parts.length)]);
         }
         write(text);
-        call(below(3) == 0 ? LAY : FAULT, 0, 0, 0);
+        call(below(3) == 0 ? Calls.LAY : Calls.FAULT, 0, 0, 0);
         askReasons();
     }
 
     private void write(CharSequence text) {
         for (int i = 0; i < text.length(); i++) {
-            call(TYPE, text.charAt(i), 0, 0);
+            call(Calls.TYPE, text.charAt(i), 0, 0);
         }
     }
 
     private void askReasons() {
         for (int index = 0; index < 4; index++) {
-            call(26, index, 0, 0);
+            call(Calls.REASON, index, 0, 0);
         }
     }
 
@@ -184,46 +189,16 @@ public final class ModelTest {
         return (int) Math.floorMod(seed >>> 33, (long) bound);
     }
 
-    private void call(int method, int a, int b, int c) {
+    /** Answers what is due; 0 when the object has had all its calls. */
+    private long call(int method, int a, int b, int c) {
         if (calls >= CALLS) {
-            return;
+            return 0;
         }
         calls++;
-        long got = answer(method, a, b, c);
+        long got = Calls.answer(real, method, a, b, c);
         long want = model.answer(method, a, b, c);
-        checks.due(method + 2, "run " + run + ", call " + calls + ": " + NAMES[method] + "(" + a
-                + ", " + b + ", " + c + ")", got, want);
-    }
-
-    private long answer(int method, int a, int b, int c) {
-        switch (method) {
-            case 0: return real.add(a, b, c);
-            case 1: return real.remove(a);
-            case 2: return real.setPoint(a, b, c);
-            case 3: return real.mirror(a);
-            case 4: return real.lay();
-            case 5: return real.undo();
-            case 6: return real.points();
-            case 7: return real.pointInfo(a, b);
-            case 8: return real.groups();
-            case 9: return real.groupInfo(a, b);
-            case 10: return real.fit(a, b, c);
-            case 11: return real.error(a, b);
-            case 12: return real.turn(a);
-            case 13: return real.turnError(a, b, c);
-            case 14: return real.blocks(a);
-            case 15: return real.blockInfo(a, b, c);
-            case 16: return real.kinks(a);
-            case 17: return real.kinkAt(a, b);
-            case 18: return real.gap(a);
-            case 19: return real.levelError(a, b);
-            case 20: return real.levelBegin(a, b);
-            case 21: return real.levels(a, b);
-            case 22: return real.penaltyFor(a, b);
-            case 23: return real.type(a);
-            case 24: return real.clearText();
-            case 25: return real.fault();
-            default: return real.reason(a);
-        }
+        checks.due(Calls.promise(method),
+                "run " + run + ", call " + calls + ": " + Calls.text(method, a, b, c), got, want);
+        return want;
     }
 }
