@@ -3,7 +3,8 @@ public final class EdgesTest {
     public static void main(String[] args) {
         Checks checks = new Checks("EdgesTest");
         Edges[] all = {new PointEdges(checks), new HistoryEdges(checks), new BlockEdges(checks),
-            new HullEdges(checks), new LevelEdges(checks), new TextEdges(checks)};
+            new HullEdges(checks), new LevelEdges(checks), new TextEdges(checks),
+            new ChangeEdges(checks)};
         for (Edges edges : all) {
             edges.check();
         }
